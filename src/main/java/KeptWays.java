@@ -719,7 +719,8 @@ public final class KeptWays {
          * is below 0, every least way has fewer roads than there are towns.
          */
         void settle(int start, int leftOut, long[] row) {
-            beginRow(start, row);
+            Arrays.fill(row, NO_LENGTH);
+            row[start] = 0;
             boolean goesOn = true;
             for (int i = 0; i < towns && goesOn; i++) {
                 goesOn = false;
@@ -899,7 +900,7 @@ public final class KeptWays {
         }
 
         boolean isBeyond(int town, long[] row) {
-            return isLess(limit[town], row[town]);
+            return row[town] == NO_LENGTH || row[town] > limit[town];
         }
 
         int beyondBits(long[] row) {
