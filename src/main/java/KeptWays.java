@@ -563,11 +563,11 @@ public final class KeptWays {
         if (!now.roads.hasRoad(road) || !isLength(length)) {
             return NONE;
         }
-        if (!now.roads.isOpen(road)) {
-            return IS_CLOSED;
-        }
         if (now.roads.far[road] == length) {
             return AS_IT_IS;
+        }
+        if (!now.roads.isOpen(road)) {
+            return IS_CLOSED;
         }
         aside.copyFrom(now.roads);
         aside.far[road] = length;

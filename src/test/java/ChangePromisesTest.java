@@ -147,6 +147,8 @@ public final class ChangePromisesTest {
         KeptWays y = Texts.withNet("towns 5;road 1 2 1000000000;road 2 3 1000000000;road 3 4 1000000000");
         C.due("too far from 1", y.origin(1), -4);
         C.due("not from 2", y.origin(2), 4);
+        KeptWays z = Texts.withNet("towns 5;road 1 2 1000000000;road 2 3 1000000000;road 3 0 1000000000");
+        C.due("0 too far from 1", z.origin(1), -4);
     }
 
     private static void touchedInOrder() {
@@ -314,6 +316,7 @@ public final class ChangePromisesTest {
         C.due("aside: touched", x.count(4), 0);
         x.close(2);
         C.due("closed", x.ifLength(2, 1), -6);
+        C.due("so long ahead of closed", x.ifLength(2, 9), -2);
         C.due("NONE ahead of closed", x.ifLength(2, BILLION + 1), -1);
         KeptWays y = Texts.withNet("towns 4;road 0 1 1000000000;road 1 2 1000000000;road 2 3 1");
         C.due("too far", y.ifLength(2, BILLION), -4);

@@ -810,7 +810,7 @@ public final class Model {
         if (!isRoad(r) || !isLength(length)) {
             return -1;
         }
-        if (!isOpen(r)) {
+        if (!isOpen(r) && roads.get(r).length != length) {
             return -6;
         }
         Model other = copy();

@@ -11,6 +11,7 @@ public final class TextPromisesTest {
         feed();
         netsThatStand();
         netFaults();
+        textsCutOff();
         netsRefused();
         netBeginsAnew();
         netStaysAtAFault();
@@ -68,6 +69,7 @@ public final class TextPromisesTest {
         C.due("to", x.road(0, 1), 2);
         C.due("length", x.road(0, 2), -12);
         C.due("open", x.road(0, 3), 1);
+        C.due("open ones of a net without roads", Texts.withNet("towns 3").count(2), 0);
         C.due("towns are 2 again without towns", Texts.net(x, "road 0 1 1"), 1);
         C.due("towns", x.count(0), 2);
         StringBuilder longest = new StringBuilder("towns 9");
@@ -91,7 +93,7 @@ public final class TextPromisesTest {
 
     private static void netFaults() {
         String[] texts = {
-            "x", "-1000", "Towns 2", "-1000", "town 2", "-1000", "townss 2", "-1000", "towns", "-1005",
+            "x", "-1000", "Towns 2", "-1000", "town 2", "-1000", "townss 2", "-1000", "townsz 2", "-1000", "towns", "-1005",
             "towns2", "-1005", "towns ", "-1006", "towns  2", "-1006", "towns -", "-1007", "towns - 2", "-1007",
             "towns --2", "-1007", "towns 2 ", "-1007", "towns 2x", "-1007", "towns 2;", "-1008", "towns 2;;", "-1008",
             "towns 2; road 0 1 1", "-1008", "towns 2;towns 3", "-1008", ";", "-1000", " road 0 1 1", "-1000",
@@ -111,6 +113,16 @@ public final class TextPromisesTest {
             KeptWays x = new KeptWays();
             C.due("net " + texts[i], Texts.net(x, texts[i]), Integer.parseInt(texts[i + 1]));
             C.due("the tape is empty behind a fault", x.count(12), 0);
+        }
+    }
+
+    /** What stands on the tape behind the first n bytes is not read. */
+    private static void textsCutOff() {
+        int[] due = {-1000, -1000, -1000, -1004, -1005, -1006, -1007, -1008, -1009, -1010, 1, 1, -3};
+        for (int n = 1; n <= due.length; n++) {
+            KeptWays x = new KeptWays();
+            Texts.feed(x, n == due.length ? "road 0 1 2;road 1 0 -2" : "road 0 1 -27;road 1 0 27");
+            C.due("the first " + n + " bytes", x.net(n == due.length ? 22 : n), due[n - 1]);
         }
     }
 
