@@ -33,7 +33,7 @@ public final class ModelTest {
             }
         }
         FACE.sort(java.util.Comparator.comparing(Method::getName));
-        int runs = args.length > 0 ? Integer.parseInt(args[0]) : 400;
+        int runs = args.length > 0 ? Integer.parseInt(args[0]) : 2000;
         long first = args.length > 1 ? Long.parseLong(args[1]) : 1;
         Checker checker = new Checker("ModelTest");
         int[] spans = {6, 12, 30, 1_000_000_000};
@@ -50,6 +50,7 @@ public final class ModelTest {
                 case 0 -> text("net", TextMaker.net(chance, mostTowns, span));
                 case 1, 2 -> text("orders", TextMaker.orders(chance, mine.count(0), mine.count(1), span));
                 case 3 -> checkParents();
+                case 4 -> layMany();
                 default -> some(12);
             };
             if (!same) {
@@ -88,6 +89,19 @@ public final class ModelTest {
                 ints[i] = Texts.four(text, at + 4 * i);
             }
             if (!ask(method("feed"), ints)) {
+                return false;
+            }
+        }
+        return true;
+    }
+
+    /** Few towns with many roads, up to all that there may be. */
+    private boolean layMany() throws Exception {
+        int many = mine.count(0) <= 4 ? chance.nextInt(20) : chance.nextInt(5);
+        for (int i = 0; i < many; i++) {
+            int from = chance.nextInt(mine.count(0));
+            int to = (from + 1 + chance.nextInt(mine.count(0) - 1)) % mine.count(0);
+            if (!ask(method("lay"), new Object[] {from, to, chance.nextInt(span)})) {
                 return false;
             }
         }
