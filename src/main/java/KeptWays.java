@@ -255,7 +255,7 @@ public final class KeptWays {
             case 7: return now.tightCount();
             case 8: return now.log.size;
             case 9: return now.watched;
-            case 10: return now.beyondBits(now.dist);
+            case 10: return now.beyondBits();
             case 11: return rightPairs().middleTown();
             case 12: return tape.size;
             case 13: return now.x;
@@ -535,7 +535,7 @@ public final class KeptWays {
         }
         now.watched |= 1 << town;
         now.limit[town] = limit;
-        return now.isBeyond(town, now.dist) ? 1 : 0;
+        return now.isBeyond(town) ? 1 : 0;
     }
 
     public boolean forget(int town) {
@@ -847,14 +847,14 @@ public final class KeptWays {
         }
 
         void takeOver(Roads changed, int start, long[] changedDist) {
-            int beyondBefore = beyondBits(dist);
+            int beyondBefore = beyondBits();
             markTouched(changedDist);
             roads.copyFrom(changed);
             origin = start;
             System.arraycopy(changedDist, 0, dist, 0, MOST_TOWNS);
             findParents();
             turn++;
-            writeEvents(beyondBefore ^ beyondBits(dist));
+            writeEvents(beyondBefore ^ beyondBits());
         }
 
         void markTouched(long[] later) {
@@ -890,7 +890,7 @@ public final class KeptWays {
         void writeEvents(int turnedBits) {
             for (int t = 0; t < roads.towns; t++) {
                 if ((turnedBits >> t & 1) != 0) {
-                    log.write(turn, t, isBeyond(t, dist), dist[t]);
+                    log.write(turn, t, isBeyond(t), dist[t]);
                 }
             }
         }
@@ -899,14 +899,14 @@ public final class KeptWays {
             return (watched >> town & 1) != 0;
         }
 
-        boolean isBeyond(int town, long[] row) {
-            return row[town] == NO_LENGTH || row[town] > limit[town];
+        boolean isBeyond(int town) {
+            return dist[town] == NO_LENGTH || dist[town] > limit[town];
         }
 
-        int beyondBits(long[] row) {
+        int beyondBits() {
             int bits = 0;
             for (int t = 0; t < roads.towns; t++) {
-                if (isWatched(t) && isBeyond(t, row)) {
+                if (isWatched(t) && isBeyond(t)) {
                     bits |= 1 << t;
                 }
             }
