@@ -563,11 +563,11 @@ public final class KeptWays {
         if (!now.roads.hasRoad(road) || !isLength(length)) {
             return NONE;
         }
-        if (now.roads.far[road] == length) {
-            return AS_IT_IS;
-        }
         if (!now.roads.isOpen(road)) {
             return IS_CLOSED;
+        }
+        if (now.roads.far[road] == length) {
+            return AS_IT_IS;
         }
         aside.copyFrom(now.roads);
         aside.far[road] = length;
@@ -834,12 +834,12 @@ public final class KeptWays {
             System.arraycopy(other.parent, 0, parent, 0, MOST_TOWNS);
         }
 
+        /** What a net makes anew; X is not among it: it is what was told as the seed. */
         void beginWith(Roads others, long[] othersDist) {
             roads.copyFrom(others);
             log.size = 0;
             origin = 0;
             turn = 0;
-            x = FIRST_X;
             watched = 0;
             touchedCount = 0;
             System.arraycopy(othersDist, 0, dist, 0, MOST_TOWNS);

@@ -316,13 +316,21 @@ public final class ChangePromisesTest {
         C.due("aside: touched", x.count(4), 0);
         x.close(2);
         C.due("closed", x.ifLength(2, 1), -6);
-        C.due("so long ahead of closed", x.ifLength(2, 9), -2);
+        C.due("closed ahead of so long", x.ifLength(2, 9), -6);
+        C.due("length() itself: so long", x.length(2, 9), -2);
         C.due("NONE ahead of closed", x.ifLength(2, BILLION + 1), -1);
+        C.due("NONE ahead of closed", x.ifLength(2, -BILLION - 1), -1);
+        x.close(1);
+        C.due("closed ahead of a ring", x.ifLength(1, -2), -6);
+        x.open(1);
+        C.due("so long, open again", x.ifLength(1, 3), -2);
         KeptWays y = Texts.withNet("towns 4;road 0 1 1000000000;road 1 2 1000000000;road 2 3 1");
         C.due("too far", y.ifLength(2, BILLION), -4);
         y.watch(3, 0);
         C.due("one", y.ifLength(2, -BILLION), 1);
         C.due("no event", y.count(8), 0);
+        y.close(2);
+        C.due("closed ahead of too far", y.ifLength(2, BILLION), -6);
     }
 
     private static void keepAndUndo() {

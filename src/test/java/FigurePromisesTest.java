@@ -543,5 +543,29 @@ public final class FigurePromisesTest {
         C.due("-1", x.seed(-1), false);
         C.due("stays", x.count(13), 65535);
         C.due("turn", x.count(5), 0);
+        seedBehindNet();
+    }
+
+    private static void seedBehindNet() {
+        String text = "towns 3;road 0 1 5;road 1 2 3";
+        KeptWays x = new KeptWays();
+        C.due("net", Texts.net(x, text), 3);
+        C.due("X of a new object stays 1", x.count(13), 1);
+        x.seed(0);
+        C.due("another net", Texts.net(x, text), 3);
+        C.due("X is what was told", x.count(13), 0);
+        for (int seed : new int[] {0, 17, 4, 60000, 65535}) {
+            x.seed(seed);
+            x.drawn(9, 1);
+            Texts.net(x, text);
+            C.due("X behind a net: " + seed, x.count(13), seed);
+            C.due("30 draws behind a net, by " + seed, x.drawn(30, 2), drawnByHand(seed, 30));
+        }
+        x.seed(5);
+        x.keep();
+        x.seed(6);
+        x.undo();
+        Texts.net(x, text);
+        C.due("X as it was undone", x.count(13), 5);
     }
 }

@@ -211,7 +211,6 @@ public final class Model {
         turn = 0;
         limits = new Integer[12];
         events = new ArrayList<>();
-        x = 1;
         kept = null;
         return parsed.clauses.size();
     }
@@ -810,7 +809,7 @@ public final class Model {
         if (!isRoad(r) || !isLength(length)) {
             return -1;
         }
-        if (!isOpen(r) && roads.get(r).length != length) {
+        if (!isOpen(r)) {
             return -6;
         }
         Model other = copy();

@@ -171,9 +171,9 @@ public final class TextPromisesTest {
         KeptWays x = used();
         C.due("events before", x.count(8) > 0, true);
         C.due("net", Texts.net(x, "towns 4;road 0 1 5;road 1 0 7"), 3);
-        int[] due = {4, 2, 2, 0, 0, 0, 2, 1, 0, 0, 0, -2, 0, 1};
+        int[] due = {4, 2, 2, 0, 0, 0, 2, 1, 0, 0, 0, -2, 0, 77};
         for (int i = 0; i < due.length; i++) {
-            C.due("anew: count(" + i + ")", x.count(i), due[i]);
+            C.due("anew, but for X: count(" + i + ")", x.count(i), due[i]);
         }
         C.due("nothing is kept", x.undo(), false);
         C.due("no event", x.event(0, 0), NO);
