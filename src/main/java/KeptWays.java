@@ -14,6 +14,8 @@ public final class KeptWays {
     private static final int FIRST_TOWNS = 2;
     private static final int MOST_ROADS = 36;
     private static final int LONGEST = 1000000000;
+    private static final int LEAST_INT = -2147483648;
+    private static final int GREATEST_INT = 2147483647;
     private static final int MOST_BYTES = 240;
     private static final int MOST_TEXT = 200;
     private static final int MOST_CLAUSES = 24;
@@ -53,7 +55,7 @@ public final class KeptWays {
     private final Reader reader = new Reader();
     private final Pairs pairs = new Pairs();
     private final Rows rows = new Rows();
-    private final NextSearch nextSearch = new NextSearch(now, pairs);
+    private final NextSearch nextSearch = new NextSearch(now);
     private final RoundSearch roundSearch = new RoundSearch(pairs);
     private final long[] shortcutFound = new long[3];
     /** Where a change is tried before it is done, and what would never be done. */
@@ -308,7 +310,7 @@ public final class KeptWays {
             case 4: return rows.waysAsShort(now, town);
             case 5: return now.hasDistance(town) ? neededCount(town) : NOT_THERE;
             case 6: return dearestRoad(town);
-            case 7: return now.hasDistance(town) ? nextLonger(town) : NO_LENGTH;
+            case 7: return now.hasDistance(town) ? nextSearch.findNext(town) : NO_LENGTH;
             case 8: return rightPairs().reachOf(town);
             case 9: return rightPairs().ringOf(now.roads, town);
             case 10: return now.isWatched(town) ? now.limit[town] : NO_LENGTH;
@@ -456,11 +458,6 @@ public final class KeptWays {
             return NO_LENGTH;
         }
         return town == now.origin ? 0 : rows.twoApart(now, town);
-    }
-
-    private long nextLonger(int town) {
-        rightPairs();
-        return nextSearch.findNext(town);
     }
 
     public long shortcut(int length, int what) {
@@ -769,8 +766,7 @@ public final class KeptWays {
 
         boolean allInts(long[] row) {
             for (int t = 0; t < towns; t++) {
-                boolean isInt = row[t] >= Integer.MIN_VALUE && row[t] <= Integer.MAX_VALUE;
-                if (row[t] != NO_LENGTH && !isInt) {
+                if (row[t] != NO_LENGTH && (row[t] < LEAST_INT || row[t] > GREATEST_INT)) {
                     return false;
                 }
             }
@@ -1295,7 +1291,7 @@ public final class KeptWays {
 
         /** The sum, or the greatest, of the lengths from these towns to one; none, if one is none. */
         long comeTogether(int townBits, int at, boolean byGreatest) {
-            long all = byGreatest ? Long.MIN_VALUE : 0;
+            long all = byGreatest ? NO_LENGTH : 0;
             for (int t = 0; t < towns; t++) {
                 if ((townBits >> t & 1) == 0) {
                     continue;
@@ -1477,26 +1473,28 @@ public final class KeptWays {
         }
     }
 
-    /** Seeks the least way by no town twice that is longer than the distance. */
+    /**
+     * Seeks the least way by no town twice that is longer than the distance. It goes on along
+     * shortest ways alone: a way that leaves them is at its least as soon as it has left.
+     */
     private static final class NextSearch {
         private final State now;
-        private final Pairs pairs;
+        private final long[] rest = new long[MOST_TOWNS];
         private int goal;
         private long best;
         private long usefulBits;
 
-        NextSearch(State now, Pairs pairs) {
+        NextSearch(State now) {
             this.now = now;
-            this.pairs = pairs;
         }
 
-        /** The pairs must be right. */
+        /** The town must have a distance. */
         long findNext(int town) {
             goal = town;
             best = NO_LENGTH;
             findUseful();
-            dive(now.origin, 1 << now.origin, 0, 0);
-            return joined(now.dist[town], best);
+            dive(now.origin, 1 << now.origin, 0);
+            return best;
         }
 
         /** Of roads that are alike one is enough, and keeps the search short. */
@@ -1520,30 +1518,50 @@ public final class KeptWays {
             return false;
         }
 
-        /** Over is the slack of all roads so far: by so much the way is longer. */
-        private void dive(int town, int seenBits, long over, int depth) {
-            if (town == goal) {
-                if (over > 0 && isLess(over, best)) {
-                    best = over;
-                }
+        private boolean isUseful(int road) {
+            return (usefulBits >> road & 1L) != 0;
+        }
+
+        /** The town was come to by a shortest way, along the towns that are seen. */
+        private void dive(int town, int seenBits, int depth) {
+            if (town == goal || depth >= MOST_TOWNS) {
                 return;
             }
-            if (depth >= MOST_TOWNS) {
-                return;
-            }
+            settleRest(seenBits);
             Roads roads = now.roads;
+            long asShortBits = 0;
             for (int r = 0; r < roads.laid; r++) {
-                int to = roads.to[r];
-                boolean isNew = roads.from[r] == town && (seenBits >> to & 1) == 0;
-                if (isNew && (usefulBits >> r & 1L) != 0 && mayHelp(to, over + now.slackOf(r))) {
-                    dive(to, seenBits | 1 << to, over + now.slackOf(r), depth + 1);
+                if (roads.from[r] != town || !isUseful(r)) {
+                    continue;
+                }
+                long all = joined(now.dist[town] + roads.far[r], rest[roads.to[r]]);
+                if (all == now.dist[goal]) {
+                    asShortBits |= 1L << r;
+                } else if (isLess(all, best)) {
+                    best = all;
+                }
+            }
+            for (int r = 0; r < roads.laid; r++) {
+                if ((asShortBits >> r & 1L) != 0) {
+                    dive(roads.to[r], seenBits | 1 << roads.to[r], depth + 1);
                 }
             }
         }
 
-        private boolean mayHelp(int town, long over) {
-            long rest = pairs.span(town, goal);
-            return rest != NO_LENGTH && isLess(over + now.dist[town] + rest - now.dist[goal], best);
+        /** The least lengths to the goal by towns that are not seen yet. */
+        private void settleRest(int seenBits) {
+            Roads roads = now.roads;
+            roads.beginRow(goal, rest);
+            boolean goesOn = true;
+            for (int i = 0; i < roads.towns && goesOn; i++) {
+                goesOn = false;
+                for (int r = 0; r < roads.laid; r++) {
+                    int from = roads.from[r];
+                    if ((seenBits >> from & 1) == 0 && isUseful(r)) {
+                        goesOn |= Roads.lower(rest, from, joined(rest[roads.to[r]], roads.far[r]));
+                    }
+                }
+            }
         }
     }
 

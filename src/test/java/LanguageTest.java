@@ -5,6 +5,7 @@ import com.sun.source.tree.ClassTree;
 import com.sun.source.tree.CompilationUnitTree;
 import com.sun.source.tree.LambdaExpressionTree;
 import com.sun.source.tree.MemberReferenceTree;
+import com.sun.source.tree.MemberSelectTree;
 import com.sun.source.tree.MethodInvocationTree;
 import com.sun.source.tree.MethodTree;
 import com.sun.source.tree.NewClassTree;
@@ -12,6 +13,8 @@ import com.sun.source.tree.SynchronizedTree;
 import com.sun.source.tree.ThrowTree;
 import com.sun.source.tree.Tree;
 import com.sun.source.tree.TryTree;
+import com.sun.source.tree.TypeCastTree;
+import com.sun.source.tree.VariableTree;
 import com.sun.source.util.JavacTask;
 import com.sun.source.util.TreePathScanner;
 import com.sun.source.util.Trees;
@@ -29,6 +32,9 @@ import javax.lang.model.element.ExecutableElement;
 import javax.lang.model.element.Modifier;
 import javax.lang.model.element.TypeElement;
 import javax.lang.model.element.VariableElement;
+import javax.lang.model.type.ArrayType;
+import javax.lang.model.type.TypeKind;
+import javax.lang.model.type.TypeMirror;
 import javax.tools.JavaCompiler;
 import javax.tools.StandardJavaFileManager;
 import javax.tools.ToolProvider;
@@ -178,8 +184,41 @@ public final class LanguageTest extends TreePathScanner<Void, Void> {
         return null;
     }
 
+    /** A constant of the library does not stand in rule 4, no more than a method that is not told there. */
+    @Override
+    public Void visitMemberSelect(MemberSelectTree tree, Void v) {
+        Element chosen = trees.getElement(getCurrentPath());
+        if (chosen != null && chosen.getKind() == ElementKind.FIELD) {
+            TypeMirror of = trees.getTypeMirror(new com.sun.source.util.TreePath(getCurrentPath(), tree.getExpression()));
+            if (of.getKind() != TypeKind.ARRAY && !of.toString().startsWith("KeptWays")) {
+                wrong("rule 4: " + tree, tree);
+            }
+        }
+        return super.visitMemberSelect(tree, v);
+    }
+
+    @Override
+    public Void visitVariable(VariableTree tree, Void v) {
+        TypeMirror type = trees.getTypeMirror(getCurrentPath());
+        TypeMirror each = type instanceof ArrayType row ? row.getComponentType() : type;
+        boolean isOwn = each.toString().startsWith("KeptWays");
+        boolean isText = type.toString().equals("java.lang.String");
+        C.holds("rule 3: " + type + " " + tree.getName(), each.getKind().isPrimitive() || isOwn || isText);
+        return super.visitVariable(tree, v);
+    }
+
+    @Override
+    public Void visitTypeCast(TypeCastTree tree, Void v) {
+        C.holds("rule 6: a cast among numbers is " + tree, trees.getTypeMirror(getCurrentPath()).getKind().isPrimitive());
+        return super.visitTypeCast(tree, v);
+    }
+
     private void depths() {
         for (Element method : calls.keySet()) {
+            if (calls.get(method).contains(method)) {
+                boolean isGuarded = ((ExecutableElement) method).getParameters().stream().anyMatch(p -> p.getSimpleName().contentEquals("depth"));
+                C.holds("rule 8: private, with its depth, is " + method, isGuarded && method.getModifiers().contains(Modifier.PRIVATE));
+            }
             if (method.getModifiers().contains(Modifier.PUBLIC)) {
                 int deep = depth(method, 0);
                 C.holds("rule 11: at most eight deep is " + method + ": " + deep, deep <= DEEPEST);

@@ -13,6 +13,7 @@ public final class RoomTest {
     public static void main(String[] args) {
         anyInts();
         fullNets();
+        nextBesideRing();
         noObjects();
         C.end();
     }
@@ -101,6 +102,24 @@ public final class RoomTest {
             }
         }
         C.holds("full nets within a minute", System.nanoTime() - begin < 60_000_000_000L);
+    }
+
+    /** Hundreds of thousands of ways lead around the ring, and none of them to town 11 by no town twice. */
+    private static void nextBesideRing() {
+        KeptWays x = Texts.withNet("towns 12");
+        x.lay(0, 11, 1);
+        x.lay(10, 0, 1);
+        for (int i = 0; i < 34; i++) {
+            x.lay(i % 10, i % 10 + 1, 1 + i);
+        }
+        long begin = System.nanoTime();
+        boolean isNone = true;
+        for (int i = 0; i < 470; i++) {
+            isNone &= x.town(11, 7) == KeptWays.NO_LENGTH;
+        }
+        C.due("roads of the ring", x.count(1), 36);
+        C.holds("no next way beside the ring", isNone);
+        C.holds("next ways beside a ring within three seconds", System.nanoTime() - begin < 3_000_000_000L);
     }
 
     private static void noObjects() {
