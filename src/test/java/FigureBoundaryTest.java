@@ -309,6 +309,12 @@ public final class FigureBoundaryTest {
             all.lay(t, t + 1, 1);
         }
         C.due("by all towns", all.town(11, 7), 11);
+        all.length(0, 1000);
+        C.due("by the one road, where the way is by all towns", all.town(11, 7), 1000);
+        for (int t = 10; t >= 0; t--) {
+            all.lay(t, t + 1, 2 + t);
+            C.due("leaves the way at " + t, all.town(11, 7), 12 + t);
+        }
         KeptWays y = Texts.withNet("towns 3;road 0 1 5;road 0 2 1;road 2 1 5");
         C.due("a road as long to the same town", y.town(1, 7), 6);
         KeptWays z = Texts.withNet("towns 3;road 0 1 5;road 0 2 5;road 2 1 1");

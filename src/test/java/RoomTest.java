@@ -14,6 +14,7 @@ public final class RoomTest {
         anyInts();
         fullNets();
         nextBesideRing();
+        nextAmongTwins();
         noObjects();
         C.end();
     }
@@ -120,6 +121,23 @@ public final class RoomTest {
         C.due("roads of the ring", x.count(1), 36);
         C.holds("no next way beside the ring", isNone);
         C.holds("next ways beside a ring within three seconds", System.nanoTime() - begin < 3_000_000_000L);
+    }
+
+    /** There are 3 by 3 by .. ways as short, as three roads are alike from each town to the next. */
+    private static void nextAmongTwins() {
+        KeptWays x = Texts.withNet("towns 12");
+        for (int i = 0; i < 33; i++) {
+            x.lay(i % 11, i % 11 + 1, 1);
+        }
+        x.lay(10, 11, 7);
+        long begin = System.nanoTime();
+        boolean isRight = true;
+        for (int i = 0; i < 440; i++) {
+            isRight &= x.town(11, 7) == 17;
+        }
+        C.due("ways as short", x.town(11, 4), 177_147);
+        C.holds("next way by the last road", isRight);
+        C.holds("next ways among twins within three seconds", System.nanoTime() - begin < 3_000_000_000L);
     }
 
     private static void noObjects() {
