@@ -1,9 +1,15 @@
-/** What an object answers to calls that change nothing, as a text, so that two states can be compared. */
+import java.util.function.Supplier;
+
+/**
+ * What an object answers to calls that change nothing, as a text, so that two states can be compared.
+ * It is made anew for each part, as an object is good for 512 calls alone.
+ */
 final class Answers {
     private Answers() {
     }
 
-    static String all(KeptWays x) {
+    static String all(Supplier<KeptWays> made) {
+        KeptWays x = made.get();
         StringBuilder out = new StringBuilder();
         out.append("counts");
         for (int what = 0; what < 14; what++) {
@@ -29,11 +35,15 @@ final class Answers {
         for (int t = 0; t < x.count(0); t++) {
             out.append(' ').append(length(x.drawn(9, t)));
         }
-        return out.append('\n').append(figures(x, 0, x.count(1))).toString();
+        return out.append('\n').append(figures(made, 0, x.count(1))).toString();
     }
 
     /** What follows from the open roads, the origin and the watches alone; roads are numbered from the first one on. */
-    static String figures(KeptWays x, int first, int roads) {
+    static String figures(Supplier<KeptWays> made, int first, int roads) {
+        return towns(made.get(), first) + roads(made.get(), first, roads) + rounds(made.get()) + shortcuts(made.get());
+    }
+
+    private static String towns(KeptWays x, int first) {
         StringBuilder out = new StringBuilder();
         int n = x.count(0);
         out.append("figures ").append(x.count(6)).append(' ').append(x.count(7)).append(' ').append(x.count(11));
@@ -55,6 +65,12 @@ final class Answers {
                 out.append(' ').append(length(x.free(t, i))).append(' ').append(length(x.hops(t, i)));
             }
         }
+        return out.toString();
+    }
+
+    private static String roads(KeptWays x, int first, int roads) {
+        StringBuilder out = new StringBuilder();
+        int n = x.count(0);
         for (int r = first; r < first + roads; r++) {
             out.append("\nby road ").append(r - first).append(':');
             for (int what = 0; what < 3; what++) {
@@ -64,13 +80,23 @@ final class Answers {
                 out.append(' ').append(x.needed(r, t)).append(' ').append(length(x.without(r, t)));
             }
         }
+        return out.toString();
+    }
+
+    private static String rounds(KeptWays x) {
+        StringBuilder out = new StringBuilder();
         out.append("\nmean ").append(length(x.mean(0))).append(' ').append(length(x.mean(1)));
-        for (int some = 0; some < 1 << Math.min(n, 4); some++) {
+        for (int some = 0; some < 1 << Math.min(x.count(0), 4); some++) {
             out.append("\nmeet and round ").append(some).append(':');
             for (int what = 0; what < 5; what++) {
                 out.append(' ').append(length(x.meet(some, what))).append(' ').append(length(x.round(some, what)));
             }
         }
+        return out.toString();
+    }
+
+    private static String shortcuts(KeptWays x) {
+        StringBuilder out = new StringBuilder();
         for (int l = -4; l < 5; l++) {
             out.append("\nshortcut ").append(l);
             for (int what = 0; what < 3; what++) {

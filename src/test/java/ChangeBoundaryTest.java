@@ -313,21 +313,8 @@ public final class ChangeBoundaryTest {
 
     @Says(promise = 29, value = "How many would be TOUCHED by a LENGTH of a ROAD that is OPEN, tried aside; as length() else; -6: it is CLOSED.")
     private static void ifLength() {
-        KeptWays x = Texts.withNet("towns 3;road 0 1 5;road 1 0 5;road 1 2 0");
-        x.watch(2, 5);
-        String before = Answers.all(x);
-        C.due("two", x.ifLength(0, 6), 2);
-        C.due("nobody", x.ifLength(1, 6), 0);
-        C.due("so long", x.ifLength(0, 5), -2);
-        C.due("a ring of 0", x.ifLength(1, -5), -3);
-        C.due("a ring of 1", x.ifLength(1, -4), 0);
-        for (int r : NO_ROADS) {
-            C.due("ifLength(" + r + ", 6)", x.ifLength(r, 6), -1);
-        }
-        C.due("a road that is not laid yet", x.ifLength(3, 6), -1);
-        C.due("too long", x.ifLength(0, BILLION + 1), -1);
-        C.due("too short", x.ifLength(0, -BILLION - 1), -1);
-        C.same("all, behind what was tried,", Answers.all(x), before);
+        C.same("all, behind what was tried,", Answers.all(() -> tried(watched())), Answers.all(() -> watched()));
+        KeptWays x = tried(watched());
         x.ifLength(0, 50);
         C.due("a change behind it does not know of it", x.origin(1), 3);
         C.due("the length", x.road(0, 2), 5);
@@ -346,8 +333,42 @@ public final class ChangeBoundaryTest {
         C.due("closed, would be too far", y.ifLength(2, 147483648), -6);
     }
 
+    private static KeptWays watched() {
+        KeptWays x = Texts.withNet("towns 3;road 0 1 5;road 1 0 5;road 1 2 0");
+        x.watch(2, 5);
+        return x;
+    }
+
+    private static KeptWays tried(KeptWays x) {
+        C.due("two", x.ifLength(0, 6), 2);
+        C.due("nobody", x.ifLength(1, 6), 0);
+        C.due("so long", x.ifLength(0, 5), -2);
+        C.due("a ring of 0", x.ifLength(1, -5), -3);
+        C.due("a ring of 1", x.ifLength(1, -4), 0);
+        for (int r : NO_ROADS) {
+            C.due("ifLength(" + r + ", 6)", x.ifLength(r, 6), -1);
+        }
+        C.due("a road that is not laid yet", x.ifLength(3, 6), -1);
+        C.due("too long", x.ifLength(0, BILLION + 1), -1);
+        C.due("too short", x.ifLength(0, -BILLION - 1), -1);
+        return x;
+    }
+
     @Says("KEPT are ROADS, ORIGIN, TOUCHED, TURN, WATCHES, EVENTS, X; UNDONE: as it was KEPT last")
     private static void undone() {
+        String kept = Answers.all(() -> justKept());
+        C.holds("other answers", !Answers.all(() -> changed(justKept())).equals(kept));
+        C.same("all, behind undo,", Answers.all(() -> changedAndUndone(justKept())), kept);
+        C.same("all, undone again,", Answers.all(() -> changedAndUndone(changedAndUndone(justKept()))), kept);
+        C.same("all, undone at once,", Answers.all(() -> undoneAtOnce(changedAndUndone(justKept()))), kept);
+        C.same("as it was kept last", Answers.all(() -> changedAndUndone(keptLater())), Answers.all(() -> keptLater()));
+        KeptWays x = changedAndUndone(keptLater());
+        x.watch(1, 7);
+        x.length(0, 8);
+        event(x, 1, 4, 1, 1, 8);
+    }
+
+    private static KeptWays justKept() {
         KeptWays x = Texts.withNet("towns 4;road 0 1 5;road 1 2 3;road 2 3 -2");
         x.watch(2, 8);
         x.watch(0, -1);
@@ -355,28 +376,26 @@ public final class ChangeBoundaryTest {
         x.length(0, 6);
         x.seed(9);
         x.keep();
-        String kept = Answers.all(x);
-        changeAll(x);
-        C.holds("other answers", !Answers.all(x).equals(kept));
-        C.due("undone", x.undo(), true);
-        C.same("all, behind undo,", Answers.all(x), kept);
-        changeAll(x);
-        C.due("undone again", x.undo(), true);
-        C.same("all, undone again,", Answers.all(x), kept);
-        C.due("undone at once", x.undo(), true);
-        C.same("all, undone at once,", Answers.all(x), kept);
-        x.length(0, 7);
-        x.keep();
-        String later = Answers.all(x);
-        changeAll(x);
-        C.due("undone", x.undo(), true);
-        C.same("as it was kept last", Answers.all(x), later);
-        x.watch(1, 7);
-        x.length(0, 8);
-        event(x, 1, 4, 1, 1, 8);
+        return x;
     }
 
-    private static void changeAll(KeptWays x) {
+    private static KeptWays keptLater() {
+        KeptWays x = justKept();
+        x.length(0, 7);
+        x.keep();
+        return x;
+    }
+
+    private static KeptWays changedAndUndone(KeptWays x) {
+        return undoneAtOnce(changed(x));
+    }
+
+    private static KeptWays undoneAtOnce(KeptWays x) {
+        C.due("undone", x.undo(), true);
+        return x;
+    }
+
+    private static KeptWays changed(KeptWays x) {
         x.lay(0, 3, 1);
         x.length(1, -1);
         x.length(1, 20);
@@ -387,6 +406,7 @@ public final class ChangeBoundaryTest {
         x.watch(2, -5);
         x.forget(0);
         x.seed(10);
+        return x;
     }
 
     @Says("(not behind another NET: then nothing is KEPT)")
@@ -406,16 +426,20 @@ public final class ChangeBoundaryTest {
 
     @Says("All memory is the keeper's own.")
     private static void objectsApart() {
+        C.same("the other one", Answers.all(() -> besideAnother()), Answers.all(() -> Texts.withNet("towns 3;road 0 1 5")));
+        C.due("nothing was kept there", besideAnother().undo(), false);
+    }
+
+    /** One of two that are alike, the other of which has changed since. */
+    private static KeptWays besideAnother() {
         KeptWays x = Texts.withNet("towns 3;road 0 1 5");
         KeptWays y = Texts.withNet("towns 3;road 0 1 5");
-        String before = Answers.all(y);
         x.length(0, 6);
         x.watch(1, 3);
         x.seed(4);
         x.keep();
         Texts.feed(x, "some");
-        C.same("the other one", Answers.all(y), before);
-        C.due("nothing was kept there", y.undo(), false);
+        return y;
     }
 
     @Says(promise = 32, value = "KEPT: TURN.")

@@ -13,20 +13,19 @@ public final class DrawnTest {
     }
 
     private static void compare(String name, String net, String orders) {
-        KeptWays mine = new KeptWays();
         Model model = new Model();
-        Texts.net(mine, net);
-        Texts.orders(mine, orders);
         feed(model, net);
         model.net(net.length());
         feed(model, orders);
         model.orders(orders.length());
-        C.due(name + ": turn", mine.count(5), model.count(5));
         for (int seed = 0; seed < 65536; seed += 331) {
+            KeptWays mine = Texts.withNet(net);
+            Texts.orders(mine, orders);
+            C.due(name + ": turn", mine.count(5), model.count(5));
             mine.seed(seed);
             model.seed(seed);
             for (int n : new int[] {1, 2, 7, 60}) {
-                for (int town = 0; town < mine.count(0); town++) {
+                for (int town = 0; town < model.count(0); town++) {
                     C.due(name + ": seed " + seed + ": drawn(" + n + ", " + town + ")", mine.drawn(n, town), model.drawn(n, town));
                 }
             }

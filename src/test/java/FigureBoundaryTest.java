@@ -929,9 +929,14 @@ public final class FigureBoundaryTest {
         x.close(0);
         C.due("no open road: as far as one that is", x.drawn(1, 0), 0);
         C.due("closed, another length", x.drawn(1, 1), NO);
-        String before = Answers.all(x);
-        x.drawn(60, 1);
-        C.same("all, behind draws,", Answers.all(x), before);
+        C.same("all, behind draws,", Answers.all(() -> closedAlone(60)), Answers.all(() -> closedAlone(0)));
+    }
+
+    private static KeptWays closedAlone(int draws) {
+        KeptWays x = Texts.withNet("towns 3;road 0 1 5");
+        x.close(0);
+        x.drawn(draws, 1);
+        return x;
     }
 
     @Says(promise = 31, value = "THE SEED (0 to 65535; X, too): true; false: no such number.")

@@ -12,7 +12,8 @@ public final class FullNetTest {
     private static final long NO = KeptWays.NO_LENGTH;
     private static final long FAR = Long.MAX_VALUE / 4;
 
-    private final KeptWays x = Texts.withNet("towns " + TOWNS);
+    /** Made anew for each town and for each question about all, as an object is good for 512 calls alone. */
+    private KeptWays x = Texts.withNet("towns " + TOWNS);
     private final int[] from = new int[ROADS];
     private final int[] to = new int[ROADS];
     private final int[] far = new int[ROADS];
@@ -73,6 +74,19 @@ public final class FullNetTest {
         origin = x.count(3);
     }
 
+    private void makeAnew() {
+        x = Texts.withNet("towns " + TOWNS);
+        for (int r = 0; r < ROADS; r++) {
+            x.lay(from[r], to[r], far[r]);
+        }
+        for (int r = 0; r < ROADS; r++) {
+            if (!isOpen[r]) {
+                x.close(r);
+            }
+        }
+        x.origin(origin);
+    }
+
     private void compareAll(String net) {
         C.due(net + ": roads", x.count(1), ROADS);
         for (long[] row : hops) {
@@ -85,8 +99,12 @@ public final class FullNetTest {
         }
         between = betweens(-1, 0, 0);
         for (int t = 0; t < TOWNS; t++) {
+            makeAnew();
+            C.due(net + ": made anew, roads", x.count(1), ROADS);
+            C.due(net + ": made anew, origin", x.count(3), origin);
             compareTown(net + ": town " + t, t);
         }
+        makeAnew();
         long divisor = gcd(meanAbove, meanBelow);
         C.due(net + ": mean(0)", x.mean(0), meanAbove == FAR ? NO : meanAbove / divisor);
         C.due(net + ": mean(1)", x.mean(1), meanAbove == FAR ? NO : meanBelow / divisor);
@@ -94,9 +112,13 @@ public final class FullNetTest {
             compareShortcut(net + ": shortcut of " + length, length);
         }
         Random chance = new Random(origin);
+        makeAnew();
         for (int i = 0; i < 20; i++) {
             compareRound(net, chance.nextInt(1 << TOWNS));
+            int some = 1 + chance.nextInt((1 << TOWNS) - 1);
+            compareMeeting(net + ": meeting of " + some, some);
         }
+        C.due(net + ": middle", x.count(11), middle());
     }
 
     private static long told(long length) {
@@ -234,9 +256,80 @@ public final class FullNetTest {
         for (int some = 0; some <= 3; some++) {
             C.due(name + ", free " + some, x.free(t, some), told(freeWay(t, some)));
         }
-        for (int u = 0; u < TOWNS; u++) {
+        compareBetweens(name, t);
+        C.due(name + ", dearest", x.town(t, 6), dearest(t));
+    }
+
+    private void compareBetweens(String name, int t) {
+        long reach = -FAR;
+        int group = t;
+        int comers = 0;
+        for (int u = TOWNS - 1; u >= 0; u--) {
             C.due(name + ", between to " + u, x.between(t, u), told(between[t][u]));
+            boolean isWay = between[origin][t] < FAR && between[t][u] < FAR;
+            C.due(name + ", through to " + u, x.through(u, t), isWay ? between[origin][t] + between[t][u] : NO);
+            boolean comesBack = between[u][t] < FAR;
+            reach = u != t && between[t][u] < FAR ? Math.max(reach, between[t][u]) : reach;
+            group = u < group && comesBack && between[t][u] < FAR ? u : group;
+            comers += u != t && comesBack ? 1 : 0;
         }
+        C.due(name + ", reach", x.town(t, 8), reach == -FAR ? NO : reach);
+        C.due(name + ", group", x.town(t, 12), group);
+        C.due(name + ", comers", x.town(t, 15), comers);
+    }
+
+    /** Of the roads of the way as it is told, each of which is tight. */
+    private int dearest(int t) {
+        long most = -FAR;
+        int dearest = -2;
+        long wayBits = 0;
+        for (int i = 0; i < TOWNS && x.way(t, i) >= 0; i++) {
+            wayBits |= 1L << x.way(t, i);
+        }
+        for (int r = 0; r < ROADS; r++) {
+            long lost = distances(1L << r)[t];
+            if ((wayBits >> r & 1) != 0 && lost > most) {
+                most = lost;
+                dearest = r;
+            }
+        }
+        return dearest;
+    }
+
+    private void compareMeeting(String name, int towns) {
+        long[] best = {FAR, FAR};
+        int[] where = {-1, -1};
+        for (int at = 0; at < TOWNS; at++) {
+            long[] all = {0, -FAR};
+            for (int t = 0; t < TOWNS; t++) {
+                if ((towns >> t & 1) != 0) {
+                    all[0] = all[0] >= FAR || between[t][at] >= FAR ? FAR : all[0] + between[t][at];
+                    all[1] = Math.max(all[1], between[t][at]);
+                }
+            }
+            for (int i = 0; i < 2; i++) {
+                where[i] = all[i] < best[i] ? at : where[i];
+                best[i] = Math.min(best[i], all[i]);
+            }
+        }
+        for (int i = 0; i < 2; i++) {
+            C.due(name + ", " + 2 * i, x.meet(towns, 2 * i), where[i] < 0 ? NO : where[i]);
+            C.due(name + ", " + (2 * i + 1), x.meet(towns, 2 * i + 1), told(best[i]));
+        }
+    }
+
+    private int middle() {
+        int middle = -2;
+        long least = FAR;
+        for (int t = 0; t < TOWNS; t++) {
+            long reach = -FAR;
+            for (int u = 0; u < TOWNS; u++) {
+                reach = u == t ? reach : Math.max(reach, between[t][u]);
+            }
+            middle = reach < least ? t : middle;
+            least = Math.min(least, reach);
+        }
+        return middle;
     }
 
     private long freeWay(int town, int some) {

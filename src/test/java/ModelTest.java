@@ -44,11 +44,12 @@ public final class ModelTest {
         checker.end();
     }
 
+    /** No step is of more than 32 calls, and an object is good for 512 of them. */
     private boolean go() throws Exception {
-        for (int i = 0; i < 20; i++) {
+        for (int i = 0; i < 20 && history.size() <= 480; i++) {
             boolean same = switch (chance.nextInt(i == 0 ? 1 : 12)) {
                 case 0 -> text("net", TextMaker.net(chance, mostTowns, span));
-                case 1, 2 -> text("orders", TextMaker.orders(chance, mine.count(0), mine.count(1), span));
+                case 1, 2 -> text("orders", TextMaker.orders(chance, model.count(0), model.count(1), span));
                 case 3 -> checkParents();
                 case 4 -> layMany();
                 default -> some(12);
@@ -97,10 +98,10 @@ public final class ModelTest {
 
     /** Few towns with many roads, up to all that there may be. */
     private boolean layMany() throws Exception {
-        int many = mine.count(0) <= 4 ? chance.nextInt(20) : chance.nextInt(5);
+        int many = model.count(0) <= 4 ? chance.nextInt(20) : chance.nextInt(5);
         for (int i = 0; i < many; i++) {
-            int from = chance.nextInt(mine.count(0));
-            int to = (from + 1 + chance.nextInt(mine.count(0) - 1)) % mine.count(0);
+            int from = chance.nextInt(model.count(0));
+            int to = (from + 1 + chance.nextInt(model.count(0) - 1)) % model.count(0);
             if (!ask(method("lay"), new Object[] {from, to, chance.nextInt(span)})) {
                 return false;
             }
@@ -110,9 +111,9 @@ public final class ModelTest {
 
     private boolean checkParents() throws Exception {
         StringBuilder bytes = new StringBuilder();
-        int n = chance.nextInt(mine.count(0) + 2);
+        int n = chance.nextInt(model.count(0) + 2);
         for (int t = 0; t < n; t++) {
-            long p = mine.town(t, 1);
+            long p = model.town(t, 1);
             bytes.append((char) (p < 0 || chance.nextInt(12) == 0 ? 255 : p));
         }
         return empty() && feed(bytes.toString()) && ask(method("check"), new Object[] {Math.min(n, 12)});
@@ -123,8 +124,8 @@ public final class ModelTest {
     }
 
     private Object[] arguments(Method m) {
-        int n = mine.count(0);
-        int roads = mine.count(1);
+        int n = model.count(0);
+        int roads = model.count(1);
         String shape = switch (m.getName()) {
             case "lay" -> "ttl";
             case "length", "ifLength" -> "rl";
@@ -170,7 +171,7 @@ public final class ModelTest {
             case '1', '2', '3', '5', '6', 'D', 'F' -> chance.nextInt(1 + Character.digit(kind, 16) + (chance.nextInt(15) == 0 ? 1 : 0));
             case 'h' -> chance.nextInt(8) == 0 ? chance.nextInt(40) : chance.nextInt(6);
             case 'b' -> chance.nextInt((1 << n) + (chance.nextInt(10) == 0 ? 8 : 0));
-            case 'e' -> chance.nextInt(mine.count(8) + 1);
+            case 'e' -> chance.nextInt(model.count(8) + 1);
             case 'd' -> chance.nextInt(20) == 0 ? chance.nextInt(65) - 2 : 1 + chance.nextInt(6);
             default -> chance.nextInt(65540);
         };

